@@ -77,8 +77,11 @@ public final class HouseTest {
         x = Due.made("h2 1;g9;i0 1 0;p12222;");
         due.is("not below 0", x.cell(1, 0), 0);
         due.is("level at 0 though close", x.item(0, 5), 1);
+        due.is("cell 0 by item 0", x.cell(0, 2), 0);
         x = Due.made("h1 3;g1,2,3;i0 2 7;p12222;");
         due.is("one column does not slope", x.item(0, 5), 1);
+        x.vote(0, 0, 0);
+        due.is("the hill slopes", x.item(0, 5), 0);
     }
 
     private static void lastItemWins() {
@@ -106,6 +109,8 @@ public final class HouseTest {
         x.vote(0, 2, 2);
         due.is("stands at last", x.told(6), 121);
         due.is("downhill at last", x.told(8), 1 << 3 | 1 << 4 | 1 << 5);
+        x = Due.made("h1 1;i0 0 1;p02222;p12222;p12222;");
+        due.is("person 0", x.told(8), 1);
     }
 
     private static void pools() {

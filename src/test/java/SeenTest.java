@@ -53,6 +53,11 @@ public final class SeenTest {
         x.see(1, 2);
         due.is("all fell", x.stood(-1), 1);
         due.is("that way", x.stood(0), 0);
+        x.tear();
+        x.see(2, 1);
+        x.see(1, 1);
+        due.is("cell 1 is lowest when item 1 stood alone", x.stood(-1), 2);
+        due.is("that way then", x.stood(0), 1);
     }
 
     private static void stoodDoesNotAskWhoVotes() {
@@ -76,6 +81,9 @@ public final class SeenTest {
         // Cells 0 and 3 part nothing; cell 1 parts the nine ways into 7 and 2, cell 2 into 6 and 3.
         x = Due.made("h4 1;g5,6,5,4;i0 0 3;i2 2 4;");
         due.is("the greatest part that is least", x.look(), 2);
+        due.is("the same again", x.look(), 2);
+        x.see(2, 2);
+        due.is("among those that stay", x.look(), 1);
     }
 
     private static void lookWithNothingToPart() {
@@ -137,5 +145,9 @@ public final class SeenTest {
         due.is("the fourth", x.judge(), 3);
         x.write(0, 5);
         due.is("still the fourth", x.judge(), 3);
+        x.tear();
+        x.write(2, 8);
+        x.write(2, 8);
+        due.is("the first", x.judge(), 0);
     }
 }

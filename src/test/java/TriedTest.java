@@ -58,6 +58,8 @@ public final class TriedTest {
         due.is("not over the right edge", x.rests(3, 0), 3);
         x = Due.made("h4 2;g9,9,9,0,5,9,9,9;");
         due.is("not over the left edge", x.rests(4, 0), 4);
+        x = Due.made("h4 2;g0,9,9,9,5,9,9,9;");
+        due.is("up to cell 0", x.rests(4, 0), 0);
         x = Due.made("h1 4;g3,2,1,0;");
         due.is("one column", x.rests(0, 1), 3);
         x = Due.made("h1 1;");
@@ -107,6 +109,13 @@ public final class TriedTest {
         x = Due.made("h2 1;g5,4;i0 1 5;p02222;p02222;p22222;");
         due.is("firm only", x.fewest(0, 0, 0), 2);
         due.is("firm", x.fewest(0, 0, 1), 2);
+        // Three yes, three no and one abstains: two must turn from no for a lead of two, or one.
+        x = Due.made("h2 1;g5,4;i0 1 5;p12222;p12222;p12222;p02222;p02222;p02222;p22222;");
+        due.is("one turns from no to yes", x.fewest(0, 0, 0), 1);
+        // Four yes, none against: they must be three fewer to be close, or two turn to no.
+        x = Due.made("h2 1;g4,5;i0 1 4;p12222;p12222;p12222;p12222;");
+        due.is("two turn from yes to no", x.fewest(0, 1, 0), 2);
+        due.is("close by one against", x.fewest(0, 1, 1), 1);
         for (int c : NO_NUMBERS) {
             due.is("from " + c, x.fewest(c, 0, 0), Due.UNKNOWN);
             due.is("to " + c, x.fewest(0, c, 0), Due.UNKNOWN);
@@ -145,6 +154,8 @@ public final class TriedTest {
         due.is("fewer before less", x.carry(), 2 | 4);
         x = Due.made("h1 1;i0 0 1;p12222;");
         due.is("one alone cannot", x.carry(), Due.NONE);
+        x = Due.made("h1 1;i0 0 1;i0 0 1;i0 0 1;i0 0 1;i0 0 1;p02222;p20222;p22022;p22202;p22220;p22222;p22222;");
+        due.is("three of seven", x.carry(), 7);
         x = Due.made("h1 1;i0 0 1;");
         due.is("nobody", x.carry(), Due.NONE);
         x = Due.made("h1 1;p00000;");
