@@ -176,7 +176,8 @@ public final class LevelVotes {
             return FULL;
         }
         history.remember(now);
-        for (int k = 0; k < n; k++) {
+        // Without persons or items nothing is done, the sessions neither; it was not refused, though.
+        for (int k = 0; k < n && plan.hasVotes(); k++) {
             voteByDraw();
             holdSession();
         }
@@ -436,12 +437,10 @@ public final class LevelVotes {
     }
 
     private void voteByDraw() {
-        if (plan.persons > 0 && plan.items > 0) {
-            int p = draws.next(plan.persons);
-            int i = draws.next(plan.items);
-            int how = draws.next(HOWS);
-            now.put(p, i, how);
-        }
+        int p = draws.next(plan.persons);
+        int i = draws.next(plan.items);
+        int how = draws.next(HOWS);
+        now.put(p, i, how);
     }
 
     private int downhill() {
@@ -659,6 +658,10 @@ public final class LevelVotes {
 
         boolean isThere() {
             return columns > 0;
+        }
+
+        boolean hasVotes() {
+            return persons > 0 && items > 0;
         }
 
         boolean hasCell(int c) {

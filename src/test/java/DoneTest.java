@@ -91,11 +91,20 @@ public final class DoneTest {
             LevelVotes x = Due.made(text);
             x.seed(9);
             due.is("drift", x.drift(7), 0);
-            due.is("sessions are held", x.told(5), 7);
-            due.is("last", x.told(7), 0);
+            due.is("no session is held", x.told(5), 0);
+            due.is("no last", x.told(7), Due.NONE);
             due.is("no draw", x.seed(0), 9);
-            due.is("it is undone", x.undo(), 0);
-            due.is("sessions", x.told(5), 0);
+            due.is("it was not refused", x.told(12), 1);
+            x.session();
+            due.is("drift behind a session", x.drift(60), 0);
+            due.is("the one session", x.told(5), 1);
+            due.is("its last", x.told(7), 0);
+            due.is("drift undone", x.undo(), 2);
+            due.is("the session is still there", x.told(5), 1);
+            due.is("session undone", x.undo(), 1);
+            due.is("no session", x.told(5), 0);
+            due.is("first drift undone", x.undo(), 0);
+            due.is("outside", x.drift(61), Due.OUTSIDE);
         }
     }
 

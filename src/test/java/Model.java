@@ -333,9 +333,9 @@ final class Model {
                 int p = draw(votes.length);
                 int i = draw(items.size());
                 votes[p][i] = draw(3);
+                sessions++;
+                last = value(wayOf(votes));
             }
-            sessions++;
-            last = value(wayOf(votes));
         }
         return value(wayOf(votes));
     }
