@@ -10,6 +10,8 @@ public final class DoneTest {
         fullOfSessions();
         undo();
         undoForgets();
+        undoForgetsVotes();
+        undoOfRefused();
         due.end();
     }
 
@@ -59,7 +61,9 @@ public final class DoneTest {
         LevelVotes x = Due.made("h1 1;i0 0 3;i0 0 4;p22222;p22222;p22222;");
         long seed = 0;
         int[][] votes = {{2, 2}, {2, 2}, {2, 2}};
-        for (int n = 1; n <= 60; n++) {
+        int held = 0;
+        for (int n : new int[] {1, 2, 3, 4, 5, 6, 7, 8, 9, 10, 30, 59, 60, 1, 60}) {
+            held += n;
             for (int k = 0; k < n; k++) {
                 seed = (seed * 1103515245L + 12345L) % 2147483648L;
                 int p = (int) (seed / 65536 % 3);
@@ -71,7 +75,7 @@ public final class DoneTest {
             int drifted = x.drift(n);
             due.is("drift(" + n + ")", drifted, x.told(6));
             due.is("last of drift(" + n + ")", drifted, x.told(7));
-            due.is("sessions of drift(" + n + ")", x.told(5), n * (n + 1) / 2);
+            due.is("sessions of drift(" + n + ")", x.told(5), held);
             for (int p = 0; p < 3; p++) {
                 for (int i = 0; i < 2; i++) {
                     due.is("votes(" + p + ", " + i + ")", x.votes(p, i), votes[p][i]);
@@ -125,6 +129,15 @@ public final class DoneTest {
         x.drift(60);
         due.is("9060", x.told(5), 9060);
         due.is("full drift at 9060", x.drift(1), Due.FULL);
+        due.is("full session at 9060", x.session(), Due.FULL);
+        due.is("votes are not sessions", x.vote(0, 0, 1), 1);
+        x.keep(0);
+        due.is("an image keeps them", x.goBack(0), 1);
+        due.is("9060 by the image", x.told(5), 9060);
+        due.is("full still", x.session(), Due.FULL);
+        Due.tell(x, "h1 1;");
+        due.is("a new house has none", x.session(), 0);
+        due.is("one session", x.told(5), 1);
     }
 
     private static void undo() {
@@ -168,5 +181,44 @@ public final class DoneTest {
         x.vote(0, 0, 2);
         due.is("one of two", x.undo(), 1);
         due.is("the vote", x.votes(0, 0), 1);
+    }
+
+    /** Twenty are kept, with the votes of each; the 21st from the end is lost. */
+    private static void undoForgetsVotes() {
+        for (int done = 19; done <= 22; done++) {
+            LevelVotes x = Due.made("h1 1;i0 0 3;i0 0 4;p00222;p22222;p22222;");
+            for (int k = 0; k < done; k++) {
+                x.vote(k % 3, k % 2, (k + 1) % 3);
+            }
+            LevelVotes early = Due.made("h1 1;i0 0 3;i0 0 4;p00222;p22222;p22222;");
+            for (int k = 0; k < done - 20; k++) {
+                early.vote(k % 3, k % 2, (k + 1) % 3);
+            }
+            int kept = Math.min(done, 20);
+            due.is("kept of " + done, x.told(12), kept);
+            for (int k = kept - 1; k >= 0; k--) {
+                due.is("undo of " + done, x.undo(), k);
+            }
+            due.is("no more of " + done, x.undo(), Due.NOT);
+            for (int k = 0; k < 6; k++) {
+                due.is("vote " + k + " of " + done, x.votes(k / 2, k % 2), early.votes(k / 2, k % 2));
+            }
+        }
+    }
+
+    /** What was refused is not the latest: the one ahead of it is undone. */
+    private static void undoOfRefused() {
+        LevelVotes x = Due.made("h1 1;i0 0 3;p02222;");
+        x.vote(0, 0, 1);
+        x.vote(0, 0, 3);
+        x.vote(1, 0, 0);
+        x.drift(0);
+        x.drift(61);
+        due.is("one is kept", x.told(12), 1);
+        due.is("it is undone", x.undo(), 0);
+        due.is("the vote as told", x.votes(0, 0), 0);
+        due.is("none", x.undo(), Due.NOT);
+        due.is("none again", x.undo(), Due.NOT);
+        due.is("undo itself is not kept", x.told(12), 0);
     }
 }

@@ -6,6 +6,8 @@ public final class HouseTest {
         told();
         stands();
         heights();
+        slopeEndsAtZero();
+        oneColumnOneRow();
         lastItemWins();
         downhill();
         pools();
@@ -82,6 +84,38 @@ public final class HouseTest {
         due.is("one column does not slope", x.item(0, 5), 1);
         x.vote(0, 0, 0);
         due.is("the hill slopes", x.item(0, 5), 0);
+    }
+
+    /** A close item's other columns are 1 less, 0 at least. */
+    private static void slopeEndsAtZero() {
+        for (int level = 0; level <= 9; level++) {
+            LevelVotes x = Due.made("h3 2;g7;i1 5 " + level + ";p12222;");
+            for (int c = 0; c < 6; c++) {
+                int want = c % 3 == 0 ? 7 : c % 3 == 1 ? level : level == 0 ? 0 : level - 1;
+                due.is("close at " + level + ", cell " + c, x.cell(c, 0), want);
+            }
+            due.is("close at " + level + " is level", x.item(0, 5), level == 0 ? 1 : 0);
+        }
+    }
+
+    /** Where all cells have one column, or one row, an item still has just those from A to B. */
+    private static void oneColumnOneRow() {
+        LevelVotes x = Due.made("h1 4;g9;i1 2 5;i3 3 4;p11222;p11222;");
+        due.is("cells 1, 2", x.item(0, 0), 6);
+        due.is("cell 3", x.item(1, 0), 8);
+        int[] want = {9, 5, 5, 4};
+        for (int c = 0; c < 4; c++) {
+            due.is("one column, cell " + c, x.cell(c, 0), want[c]);
+        }
+        due.is("B above A", Due.tell(x, "h1 4;i2 1 5;"), -14);
+        due.is("at the B", x.fault(), 8);
+        x = Due.made("h4 1;g9;i1 2 5;i3 3 4;p11222;p11222;");
+        due.is("cells 1, 2 of a row", x.item(0, 0), 6);
+        for (int c = 0; c < 4; c++) {
+            due.is("one row, cell " + c, x.cell(c, 0), want[c]);
+        }
+        due.is("B left of A", Due.tell(x, "h4 1;i2 1 5;"), -14);
+        due.is("at that B", x.fault(), 8);
     }
 
     private static void lastItemWins() {

@@ -7,6 +7,8 @@ public final class ImagesTest {
         keepAndGoBack();
         whatImagesDoNotKeep();
         nothingToUndo();
+        bothImagesGoWithTheHouse();
+        imagesBehindFault();
         refusals();
         due.end();
     }
@@ -87,6 +89,34 @@ public final class ImagesTest {
         x.vote(0, 0, 1);
         due.is("from there on", x.undo(), 0);
         due.is("as the image", x.votes(0, 0), 2);
+    }
+
+    private static void bothImagesGoWithTheHouse() {
+        for (String text : new String[] {"h1 1;i0 0 1;p01222;", ""}) {
+            LevelVotes x = Due.made("h1 1;i0 0 1;p01222;");
+            x.seed(8);
+            x.keep(0);
+            x.keep(1);
+            x.seed(9);
+            Due.tell(x, text);
+            due.is("image 0 is gone", x.goBack(0), Due.NOT);
+            due.is("image 1 is gone", x.goBack(1), Due.NOT);
+            due.is("the seed stays", x.seed(0), 9);
+            due.is("image 0 anew", x.keep(0), 1);
+            due.is("image 0 is there", x.goBack(0), 1);
+            due.is("image 1 is not", x.goBack(1), Due.NOT);
+        }
+    }
+
+    private static void imagesBehindFault() {
+        LevelVotes x = Due.made("h1 1;i0 0 1;p01222;");
+        x.vote(0, 0, 1);
+        x.keep(0);
+        x.vote(0, 0, 2);
+        Due.tell(x, "h1 1;i0 0 1;p01222;h");
+        due.is("the vote stays", x.votes(0, 0), 2);
+        due.is("image 0 stays", x.goBack(0), 1);
+        due.is("the vote of the image", x.votes(0, 0), 1);
     }
 
     private static void refusals() {

@@ -3,7 +3,7 @@ import java.util.Random;
 /** All promises: runs of calls by chance (the same each time), held against the plain model. */
 public final class ModelTest {
     private static final Due due = new Due();
-    private static final int RUNS = 400;
+    private static final int RUNS = 500;
     private static final int CALLS = 500;
     private static final int[] EDGES = {-2147483648, -1000000001, -100, -2, -1, 20, 21, 31, 32, 60, 61, 100, 101, 240, 255, 256, 2147483647};
 
@@ -22,7 +22,7 @@ public final class ModelTest {
         Model m = new Model();
         int left = CALLS;
         while (left > 0) {
-            if (left == CALLS || r.nextInt(120) == 0) {
+            if (left == CALLS || left > 250 && r.nextInt(120) == 0) {
                 String text = text(r);
                 if (r.nextInt(6) == 0) {
                     text = spoil(r, text);
@@ -30,8 +30,7 @@ public final class ModelTest {
                 left -= text.length() + 2;
                 tell(x, m, text, name);
             } else {
-                call(x, m, r, name);
-                left--;
+                left -= call(x, m, r, name);
             }
         }
     }
@@ -116,7 +115,8 @@ public final class ModelTest {
         return r.nextInt(below + (r.nextInt(6) == 0 ? 1 : 0));
     }
 
-    private static void call(LevelVotes x, Model m, Random r, String name) {
+    /** One call, or a few: how many. */
+    private static int call(LevelVotes x, Model m, Random r, String name) {
         int cells = Math.max(1, m.told(0) * m.told(1));
         int items = Math.max(1, m.told(2)), persons = Math.max(1, m.told(3));
         int c = number(r, cells), d = number(r, cells), i = number(r, items), p = number(r, persons);
@@ -154,5 +154,6 @@ public final class ModelTest {
             case 50: case 51: due.is(call + " goBack " + two, x.goBack(two), m.goBack(two)); break;
             default: for (int v = 5; v <= 12; v++) due.is(call + " told " + v, x.told(v), m.told(v));
         }
+        return kind > 51 ? 8 : 1;
     }
 }

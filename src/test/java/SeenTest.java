@@ -7,7 +7,9 @@ public final class SeenTest {
         see();
         stood();
         stoodDoesNotAskWhoVotes();
+        stoodByAllSix();
         look();
+        lookCountsEachWayOnce();
         lookWithNothingToPart();
         write();
         tear();
@@ -71,6 +73,26 @@ public final class SeenTest {
         due.is("no other", x.stood(1), Due.NONE);
     }
 
+    /** Each of six entries counts: the first, the last, and none but them. */
+    private static void stoodByAllSix() {
+        for (int place = 0; place < 6; place++) {
+            LevelVotes x = Due.made("h3 1;g5,4,3;i0 0 2;i2 2 9;");
+            for (int k = 0; k < 6; k++) {
+                if (k == place) {
+                    x.see(0, 0);
+                } else {
+                    x.see(2, 2);
+                }
+            }
+            due.is("item 0 stood and item 1 not, told at " + place, x.stood(-1), 2);
+            due.is("the first, told at " + place, x.stood(0), 10);
+            due.is("the second, told at " + place, x.stood(1), 20);
+            due.is("no third, told at " + place, x.stood(2), Due.NONE);
+            x.see(1, 1);
+            due.is("a seventh does not count, told at " + place, x.stood(-1), 2);
+        }
+    }
+
     private static void look() {
         // Cell 0 tells fell, close from firm (rests in 1, 1, 0); cell 1 never moves.
         LevelVotes x = Due.made("h2 1;g9,1;i0 1 5;");
@@ -84,6 +106,17 @@ public final class SeenTest {
         due.is("the same again", x.look(), 2);
         x.see(2, 2);
         due.is("among those that stay", x.look(), 1);
+    }
+
+    private static void lookCountsEachWayOnce() {
+        // One item: cell 0 parts 0, 2 from 1, cells 2 and 3 part 0 from 1, 2: two alike at most in each.
+        LevelVotes x = Due.made("h4 1;g5,5,7,6;i0 2 5;");
+        due.is("the least of three", x.look(), 0);
+        x.see(3, 2);
+        due.is("1 from 2", x.look(), 0);
+        x.see(0, 1);
+        due.is("close alone", x.look(), Due.NONE);
+        due.is("that way", x.stood(0), 1);
     }
 
     private static void lookWithNothingToPart() {
@@ -128,6 +161,15 @@ public final class SeenTest {
         due.is("no book", x.told(11), 0);
         due.is("votes stay to be undone", x.told(12), 1);
         due.is("nothing more", x.tear(), 0);
+        for (int k = 0; k < 16; k++) {
+            x.see(0, 0);
+            x.write(0, 9);
+        }
+        due.is("both full", x.tear(), 21);
+        due.is("nothing seen then", x.told(10), 0);
+        due.is("no book then", x.told(11), 0);
+        due.is("seen anew", x.see(0, 0), 1);
+        due.is("a book anew", x.write(0, 9), 1);
     }
 
     private static void judge() {
@@ -149,5 +191,18 @@ public final class SeenTest {
         x.write(2, 8);
         x.write(2, 8);
         due.is("the first", x.judge(), 0);
+        x.tear();
+        for (int k = 0; k < 14; k++) {
+            x.write(k % 3, 7 + k % 3);
+        }
+        due.is("14 are right", x.judge(), Due.NONE);
+        x.write(0, 0);
+        due.is("the fifteenth is wrong", x.judge(), 14);
+        x.write(0, 1);
+        due.is("a sixteenth is not told", x.judge(), 14);
+        x.tear();
+        due.is("torn", x.judge(), Due.NONE);
+        x.write(0, 7);
+        due.is("nothing is left of the old book", x.judge(), Due.NONE);
     }
 }

@@ -7,8 +7,10 @@ public final class TriedTest {
         rolls();
         likeNeighbours();
         edgesOfTheHill();
+        longestRoll();
         pool();
         tips();
+        tipsOfAllVotes();
         fewest();
         fewestOfLikeOnes();
         fewestOutOfReach();
@@ -66,6 +68,16 @@ public final class TriedTest {
         due.is("one cell", x.rests(0, 0), 0);
     }
 
+    /** Heights are 0 to 9, so none rolls over more than nine cells. */
+    private static void longestRoll() {
+        LevelVotes x = Due.made("h5 4;g9,8,7,6,5,9,9,9,9,4,9,0,1,2,3,9,9,9,9,9;");
+        due.is("nine cells", x.rests(0, 1), 9);
+        due.is("down to 0", x.rests(0, 0), 11);
+        due.is("at rest", x.rests(11, 0), 11);
+        due.is("over none", x.rests(11, 1), 0);
+        due.is("the last cell", x.rests(19, 0), 11);
+    }
+
     private static void pool() {
         LevelVotes x = Due.made("h5 1;g1,2,3,2,1;");
         int[] want = {3, 0, 0, 0, 2};
@@ -79,7 +91,7 @@ public final class TriedTest {
     }
 
     private static void tips() {
-        // Leads: 2 (two yes, two abstain), 3 (three yes, one abstains), 0 (two against two), -2, 4.
+        // Leads: 2 (two yes, two abstain), 3 (three yes, one abstains), 0 (two against two), -4, 4.
         LevelVotes x = Due.made("h1 1;i0 0 1;i0 0 1;i0 0 1;i0 0 1;i0 0 1;p11101;p11101;p21001;p22001;");
         due.is("firm by two", x.tips(0), 15);
         due.is("firm by three", x.tips(1), 7);
@@ -92,6 +104,25 @@ public final class TriedTest {
         due.is("nobody", x.tips(0), 0);
         for (int i : new int[] {-1, 1, 5, Integer.MIN_VALUE, Integer.MAX_VALUE}) {
             due.is("tips of " + i, x.tips(i), Due.UNKNOWN);
+        }
+    }
+
+    /** All votes of three persons on an item: each is tried by his votes, and undone. */
+    private static void tipsOfAllVotes() {
+        for (int votes = 0; votes < 27; votes++) {
+            int[] how = {votes / 9, votes / 3 % 3, votes % 3};
+            LevelVotes x = Due.made("h1 1;i0 0 1;p" + how[0] + "2222;p" + how[1] + "2222;p" + how[2] + "2222;");
+            int stands = x.item(0, 2);
+            int who = 0;
+            for (int p = 0; p < 3; p++) {
+                for (int other = 0; other < 3; other++) {
+                    if (x.vote(p, 0, other) != stands) {
+                        who |= 1 << p;
+                    }
+                    x.undo();
+                }
+            }
+            due.is("tips of " + how[0] + how[1] + how[2], x.tips(0), who);
         }
     }
 
@@ -193,6 +224,16 @@ public final class TriedTest {
             odds = odds * 67 / 100;
             due.is("recount(" + n + ", 33)", x.recount(n, 33), (int) odds);
         }
+        due.is("no count, sure to change", x.recount(0, 100), 1000000000);
+        due.is("no count, none changes", x.recount(0, 0), 1000000000);
+        due.is("60 counts, sure to change", x.recount(60, 100), 0);
+        due.is("60 counts, none changes", x.recount(60, 0), 1000000000);
+        due.is("one count, nearly sure to change", x.recount(1, 99), 10000000);
+        // 670000000, 448900000, 300763000, 201511210, 135012510(.7), 90458381(.7 of what was cut).
+        due.is("cut once", x.recount(5, 33), 135012510);
+        due.is("cut twice", x.recount(6, 33), 90458381);
+        due.is("nothing is left", x.recount(10, 90), 0);
+        due.is("1 is left", x.recount(9, 90), 1);
         due.is("n -1", x.recount(-1, 5), Due.OUTSIDE);
         due.is("n 61", x.recount(61, 5), Due.OUTSIDE);
         due.is("q -1", x.recount(5, -1), Due.OUTSIDE);
