@@ -10,6 +10,7 @@ public final class HouseTest {
         oneColumnOneRow();
         lastItemWins();
         downhill();
+        figuresBehindTheLastItem();
         pools();
         refusals();
         due.end();
@@ -145,6 +146,29 @@ public final class HouseTest {
         due.is("downhill at last", x.told(8), 1 << 3 | 1 << 4 | 1 << 5);
         x = Due.made("h1 1;i0 0 1;p02222;p12222;p12222;");
         due.is("person 0", x.told(8), 1);
+    }
+
+    /** V has five figures though there are fewer items: those behind the last item count nowhere. */
+    private static void figuresBehindTheLastItem() {
+        String[] items = {"", "i0 0 3;", "i0 0 3;i0 0 3;", "i0 0 3;i0 0 3;i0 0 3;", "i0 0 3;i0 0 3;i0 0 3;i0 0 3;"};
+        for (int n = 0; n < items.length; n++) {
+            String neither = "22222".substring(0, n);
+            String yes = neither + "11111".substring(n);
+            String no = neither + "00000".substring(n);
+            // By what is behind the last item: two for it, one against, so it would stand.
+            LevelVotes x = Due.made("h2 1;g5,4;" + items[n] + "p" + yes + ";p" + yes + ";p" + no + ";");
+            due.is("stand, items " + n, x.told(6), 0);
+            due.is("downhill, items " + n, x.told(8), 0);
+            due.is("as it is, items " + n, x.fewest(0, 1, 0), 0);
+            due.is("as it stands, items " + n, x.fewest(0, 1, 1), 0);
+            due.is("one vote, items " + n, x.fewest(0, 0, 0), n == 0 ? Due.NONE : 1);
+            due.is("carry, items " + n, x.carry(), n == 0 ? 0 : 3);
+            due.is("no such votes, items " + n, x.votes(0, n), Due.UNKNOWN);
+            due.is("no such vote, items " + n, x.vote(0, n, 0), Due.UNKNOWN);
+            due.is("no such item, items " + n, x.item(n, 3), Due.UNKNOWN);
+            due.is("nobody tips it, items " + n, x.tips(n), Due.UNKNOWN);
+            due.is("session, items " + n, x.session(), 0);
+        }
     }
 
     private static void pools() {
