@@ -10,6 +10,7 @@ public final class SeenTest {
         stoodByAllSix();
         look();
         lookCountsEachWayOnce();
+        lookAtEachCell();
         lookWithNothingToPart();
         write();
         tear();
@@ -117,6 +118,21 @@ public final class SeenTest {
         x.see(0, 1);
         due.is("close alone", x.look(), Due.NONE);
         due.is("that way", x.stood(0), 1);
+    }
+
+    /** One high cell, which one item would make as low as all others: its marble alone tells. */
+    private static void lookAtEachCell() {
+        for (int c = 0; c < 20; c++) {
+            StringBuilder text = new StringBuilder("h5 4;");
+            for (int k = 0; k < 20; k++) {
+                text.append(k == 0 ? 'g' : ',').append(k == c ? 9 : 0);
+            }
+            LevelVotes x = Due.made(text + ";i" + c + " " + c + " 0;");
+            due.is("cell " + c + " alone parts them", x.look(), c);
+            x.see(c, c);
+            due.is("it stood, cell " + c, x.stood(Due.NONE), 2);
+            due.is("nothing more parts them, cell " + c, x.look(), Due.NONE);
+        }
     }
 
     private static void lookWithNothingToPart() {

@@ -359,6 +359,8 @@ public final class TextTest {
         due.is("blanks alone", Due.tell(x, "   "), 0);
         due.is("blanks alone: no house", x.told(0), 0);
         due.is("blanks alone: fault", x.fault(), Due.NONE);
+        due.is("240 blanks alone", Due.tell(x, " ".repeat(240)), 0);
+        due.is("240 blanks alone: fault", x.fault(), Due.NONE);
     }
 
     private static void ends() {

@@ -12,6 +12,7 @@ public final class TriedTest {
         tips();
         tipsOfAllVotes();
         fewest();
+        fewestOfEachItem();
         fewestOfLikeOnes();
         fewestOutOfReach();
         carry();
@@ -154,6 +155,31 @@ public final class TriedTest {
         }
         due.is("what 2", x.fewest(0, 0, 2), Due.OUTSIDE);
         due.is("what -1", x.fewest(0, 0, -1), Due.OUTSIDE);
+    }
+
+    /** Item k walls off what is below cell k; of seven persons 0, 1, 3, 5, 7 vote no on items 0 to 4. */
+    private static void fewestOfEachItem() {
+        int[] against = {0, 1, 3, 5, 7};
+        StringBuilder text = new StringBuilder("h5 2;g5,5,5,5,5,4,4,4,4,4;");
+        for (int i = 0; i < 5; i++) {
+            text.append('i').append(5 + i).append(' ').append(5 + i).append(" 9;");
+        }
+        for (int p = 0; p < 7; p++) {
+            text.append('p');
+            for (int i = 0; i < 5; i++) {
+                text.append(p < against[i] ? 0 : 2);
+            }
+            text.append(';');
+        }
+        LevelVotes x = Due.made(text.toString());
+        int[] price = {1, 1, 2, 3, 4};
+        int[] close = {10000, 1000, 100, 10, 1};
+        for (int c = 0; c < 5; c++) {
+            due.is("as it is, item " + c, x.fewest(c, 5 + c, 0), 0);
+            due.is("none stands, item " + c, x.fewest(c, 5 + c, 1), 0);
+            due.is("votes for item " + c, x.fewest(c, c, 0), price[c]);
+            due.is("close, item " + c, x.fewest(c, c, 1), close[c]);
+        }
     }
 
     private static void fewestOfLikeOnes() {
